@@ -1,82 +1,13 @@
 /** For each promise: ordinary calls, the edges that the document names, and wrong inputs. */
-public final class Promises {
-    private static final int NORMAL = 0;
-    private static final int CHANGING = 1;
-    private static final int RECOVERING = 2;
-    private static final int DOWN = 3;
-
-    private static final int PREPARE = 1;
-    private static final int OK = 2;
-    private static final int FETCH = 3;
-    private static final int STATE = 4;
-    private static final int CHANGE = 5;
-    private static final int PAPER = 6;
-    private static final int RECOVERY = 7;
-    private static final int RESPONSE = 8;
-
-    private static final int MIN = Integer.MIN_VALUE;
-    private static final int MAX = Integer.MAX_VALUE;
-
-    private static int wrong = 0;
-
-    private static void due(String what, long got, long want) {
-        if (got != want) {
-            wrong++;
-            System.out.println(what + " answered " + got + ", due is " + want);
-        }
-    }
-
-    private static void due(String what, boolean got, boolean want) {
-        due(what, got ? 1 : 0, want ? 1 : 0);
-    }
-
-    private static int letter(int kind, int sender, int addressee, int view) {
-        return kind + 16 * sender + 128 * addressee + 1024 * view;
-    }
-
-    private static void drain(GroupLog x) {
-        while (x.next() >= 0) {
-        }
-    }
-
-    /** The latest message of that kind, sender and addressee that is there. */
-    private static int latest(GroupLog x, int kind, int sender, int addressee) {
-        for (int k = x.sent() - 1; x.message(k) != -1; k--) {
-            if (x.message(k) % 1024 == letter(kind, sender, addressee, 0)) {
-                return k;
-            }
-        }
-        return -1;
-    }
-
-    private static int deliverLatest(GroupLog x, int kind, int sender, int addressee) {
-        return x.deliver(latest(x, kind, sender, addressee));
-    }
-
-    private static void dueReplica(String at, GroupLog x, int replica, int status, int view, int length,
-                                   int commit) {
-        due(at + ": status(" + replica + ")", x.status(replica), status);
-        due(at + ": view(" + replica + ")", x.view(replica), view);
-        due(at + ": length(" + replica + ")", x.length(replica), length);
-        due(at + ": commit(" + replica + ")", x.commit(replica), commit);
-    }
-
-    private static void dueFresh(String at, GroupLog x, int replica, int status, int n) {
-        dueReplica(at, x, replica, status, 0, 0, 0);
-        due(at + ": total", x.total(replica), 0);
-        for (int other = 0; other < n; other++) {
-            due(at + ": vector(" + replica + ", " + other + ")", x.vector(replica, other), 0);
-        }
-    }
-
+public final class Promises extends Due {
     private static void newObject() {
         int[] sizes = {0, 2, 4, -2, 1000, MIN, 1, 3, 5, -1, -3, MAX};
         for (int i = 0; i < sizes.length; i++) {
-            GroupLog x = new GroupLog(sizes[i]);
+            Group x = new Group(sizes[i]);
             int n = i < 6 ? 3 : 5;
             String at = "new GroupLog(" + sizes[i] + ")";
             for (int replica = 0; replica < n; replica++) {
-                dueFresh(at, x, replica, NORMAL, n);
+                x.dueFresh(at, replica, NORMAL);
             }
             due(at + ": status(" + n + ")", x.status(n), -1);
             due(at + ": sent()", x.sent(), 0);
@@ -91,18 +22,18 @@ public final class Promises {
     }
 
     private static void objectsAreApart() {
-        GroupLog x = new GroupLog(0);
-        GroupLog y = new GroupLog(0);
+        Group x = new Group(0);
+        Group y = new Group(0);
         x.request(0, 0, 1, 7);
-        drain(x);
+        x.drain();
         x.crash(2);
         due("apart: sent()", y.sent(), 0);
         due("apart: answered(0)", y.answered(0), 0);
-        dueFresh("apart", y, 2, NORMAL, 3);
+        y.dueFresh("apart", 2, NORMAL);
     }
 
     private static void requestRefused() {
-        GroupLog x = new GroupLog(0);
+        Group x = new Group(0);
         int[] noReplicas = {-1, 3, MIN, MAX};
         for (int replica : noReplicas) {
             due("request(" + replica + ", 0, 1, 5)", x.request(replica, 0, 1, 5), -1);
@@ -130,7 +61,7 @@ public final class Promises {
     }
 
     private static void requestTaken() {
-        GroupLog x = new GroupLog(1);
+        Group x = new Group(1);
         due("request(0, 3, 5, -9)", x.request(0, 3, 5, -9), 0);
         due("request: length(0)", x.length(0), 1);
         due("request: entry(0, 0)", x.entry(0, 0), -9);
@@ -153,7 +84,7 @@ public final class Promises {
     }
 
     private static void requestWhenFull() {
-        GroupLog x = new GroupLog(0);
+        Group x = new Group(0);
         for (int number = 1; number <= 24; number++) {
             due("request number " + number, x.request(0, number % 3, number, number), 0);
         }
@@ -165,8 +96,8 @@ public final class Promises {
         due("full: sent()", x.sent(), 48);
         due("full: entry(0, 23)", x.entry(0, 23), 24);
         due("full: entry(0, 24)", x.entry(0, 24), 0);
-        drain(x);
-        dueReplica("full, received", x, 0, NORMAL, 0, 24, 24);
+        x.drain();
+        x.dueReplica("full, received", 0, NORMAL, 0, 24, 24);
         due("full, received: length(1)", x.length(1), 24);
         due("full, received: request again", x.request(0, 0, 24, 1), 1);
         due("full, received: request", x.request(0, 3, 1, 1), -4);
@@ -174,21 +105,21 @@ public final class Promises {
 
     /** A primary that is left behind answers an old number again: the client keeps the greater one. */
     private static void answersOfAnOldPrimary() {
-        GroupLog x = new GroupLog(0);
+        Group x = new Group(0);
         x.request(0, 2, 3, 10);
-        drain(x);
+        x.drain();
         due("old primary: answer(2)", x.answer(2), 12);
         x.suspect(1);
-        deliverLatest(x, CHANGE, 1, 2);
-        deliverLatest(x, CHANGE, 2, 1);
-        deliverLatest(x, PAPER, 2, 1);
-        deliverLatest(x, STATE, 1, 2);
+        x.deliverLatest(CHANGE, 1, 2);
+        x.deliverLatest(CHANGE, 2, 1);
+        x.deliverLatest(PAPER, 2, 1);
+        x.deliverLatest(STATE, 1, 2);
         due("old primary: its view", x.view(0), 0);
-        dueReplica("new primary", x, 1, NORMAL, 1, 1, 0);
+        x.dueReplica("new primary", 1, NORMAL, 1, 1, 0);
         due("request again at the new primary, not committed there", x.request(1, 2, 3, 10), 2);
         due("request at the new primary", x.request(1, 2, 4, 1), 0);
-        deliverLatest(x, PREPARE, 1, 2);
-        deliverLatest(x, OK, 2, 1);
+        x.deliverLatest(PREPARE, 1, 2);
+        x.deliverLatest(OK, 2, 1);
         due("new primary: answered(2)", x.answered(2), 4);
         due("new primary: answer(2)", x.answer(2), 39);
         due("request again at the old primary", x.request(0, 2, 3, 55), 1);
@@ -199,33 +130,33 @@ public final class Promises {
 
     /** A commit that comes with a paper answers nobody, so the client asks again. */
     private static void answerAfterPaper() {
-        GroupLog x = new GroupLog(0);
+        Group x = new Group(0);
         x.request(0, 1, 1, 4);
         x.request(0, 0, 1, 6);
-        deliverLatest(x, PREPARE, 0, 2);
-        deliverLatest(x, FETCH, 2, 0);
-        deliverLatest(x, STATE, 0, 2);
+        x.deliverLatest(PREPARE, 0, 2);
+        x.deliverLatest(FETCH, 2, 0);
+        x.deliverLatest(STATE, 0, 2);
         x.suspect(1);
-        deliverLatest(x, CHANGE, 1, 2);
-        deliverLatest(x, PAPER, 2, 1);
-        dueReplica("after paper", x, 1, NORMAL, 1, 2, 0);
-        deliverLatest(x, STATE, 1, 2);
-        deliverLatest(x, OK, 2, 1);
+        x.deliverLatest(CHANGE, 1, 2);
+        x.deliverLatest(PAPER, 2, 1);
+        x.dueReplica("after paper", 1, NORMAL, 1, 2, 0);
+        x.deliverLatest(STATE, 1, 2);
+        x.deliverLatest(OK, 2, 1);
         due("after OK: commit(1)", x.commit(1), 2);
         due("after OK: answer(1)", x.answer(1), 5);
         due("after OK: answer(0)", x.answer(0), 21);
         x.remind(1);
-        deliverLatest(x, PREPARE, 1, 2);
+        x.deliverLatest(PREPARE, 1, 2);
         due("after remind: commit(2)", x.commit(2), 2);
         x.suspect(2);
-        deliverLatest(x, CHANGE, 2, 0);
-        deliverLatest(x, PAPER, 0, 2);
-        dueReplica("third primary", x, 2, NORMAL, 2, 2, 2);
+        x.deliverLatest(CHANGE, 2, 0);
+        x.deliverLatest(PAPER, 0, 2);
+        x.dueReplica("third primary", 2, NORMAL, 2, 2, 2);
         due("request again at the third primary", x.request(2, 1, 1, 99), 1);
     }
 
     private static void deliver() {
-        GroupLog x = new GroupLog(0);
+        Group x = new Group(0);
         int[] none = {-1, 0, 1, MIN, MAX};
         for (int k : none) {
             due("deliver(" + k + ")", x.deliver(k), -1);
@@ -240,7 +171,7 @@ public final class Promises {
     }
 
     private static void onlyTheLatestAreThere() {
-        GroupLog x = new GroupLog(0);
+        Group x = new Group(0);
         for (int i = 0; i < 32; i++) {
             x.remind(0);
         }
@@ -258,15 +189,15 @@ public final class Promises {
 
     /** A message's own sending pushes it out while it is received; what it says still counts. */
     private static void receivedWhilePushedOut() {
-        GroupLog x = new GroupLog(0);
+        Group x = new Group(0);
         x.request(0, 3, 9, 70);
         x.request(0, 1, 1, 80);
         x.deliver(1);
         x.deliver(3);
         x.suspect(2);
-        deliverLatest(x, CHANGE, 2, 0);
-        deliverLatest(x, CHANGE, 0, 2);
-        int paper = latest(x, PAPER, 2, 1);
+        x.deliverLatest(CHANGE, 2, 0);
+        x.deliverLatest(CHANGE, 0, 2);
+        int paper = x.latest(PAPER, 2, 1);
         x.deliver(2);
         due("oldest: a FETCH makes the count even", x.message(paper + 1), letter(FETCH, 1, 0, 0));
         while (x.sent() < paper + 64) {
@@ -275,7 +206,7 @@ public final class Promises {
         due("oldest: message", x.message(paper), letter(PAPER, 2, 1, 1));
         due("oldest: status(1)", x.status(1), NORMAL);
         due("oldest: deliver", x.deliver(paper), 2);
-        dueReplica("oldest", x, 1, NORMAL, 1, 2, 0);
+        x.dueReplica("oldest", 1, NORMAL, 1, 2, 0);
         due("oldest: entry(1, 0)", x.entry(1, 0), 70);
         due("oldest: origin(1, 0)", x.origin(1, 0), 39);
         due("oldest: entry(1, 1)", x.entry(1, 1), 80);
@@ -283,7 +214,7 @@ public final class Promises {
     }
 
     private static void next() {
-        GroupLog x = new GroupLog(0);
+        Group x = new Group(0);
         due("next() of none", x.next(), -1);
         x.request(0, 0, 1, 5);
         x.crash(2);
@@ -300,7 +231,7 @@ public final class Promises {
     }
 
     private static void nextSkipsWhatIsGone() {
-        GroupLog x = new GroupLog(0);
+        Group x = new Group(0);
         x.remind(0);
         due("next() is message 0", x.next(), 2);
         for (int i = 0; i < 40; i++) {
@@ -316,7 +247,7 @@ public final class Promises {
     }
 
     private static void remind() {
-        GroupLog x = new GroupLog(1);
+        Group x = new Group(1);
         int[] none = {-1, 5, MIN, MAX};
         for (int replica : none) {
             due("remind(" + replica + ")", x.remind(replica), false);
@@ -328,7 +259,7 @@ public final class Promises {
         due("reminded: message(3)", x.message(3), letter(PREPARE, 0, 4, 0));
         due("reminded: deliver(3)", x.deliver(3), 2);
         due("reminded: message(4)", x.message(4), letter(OK, 4, 0, 0));
-        dueReplica("reminded", x, 4, NORMAL, 0, 0, 0);
+        x.dueReplica("reminded", 4, NORMAL, 0, 0, 0);
         x.suspect(1);
         due("remind(1) of a CHANGING primary", x.remind(1), false);
         x.crash(0);
@@ -338,51 +269,51 @@ public final class Promises {
     }
 
     private static void suspect() {
-        GroupLog x = new GroupLog(0);
+        Group x = new Group(0);
         int[] none = {-1, 3, MIN, MAX};
         for (int replica : none) {
             due("suspect(" + replica + ")", x.suspect(replica), false);
         }
         x.request(0, 0, 1, 5);
         due("suspect(0)", x.suspect(0), true);
-        dueReplica("suspected", x, 0, CHANGING, 1, 1, 0);
+        x.dueReplica("suspected", 0, CHANGING, 1, 1, 0);
         due("suspected: sent()", x.sent(), 4);
         due("suspected: message(2)", x.message(2), letter(CHANGE, 0, 1, 1));
         due("suspected: message(3)", x.message(3), letter(CHANGE, 0, 2, 1));
         due("suspect(0) while CHANGING", x.suspect(0), true);
-        dueReplica("suspected again", x, 0, CHANGING, 2, 1, 0);
+        x.dueReplica("suspected again", 0, CHANGING, 2, 1, 0);
         due("suspected again: message(5)", x.message(5), letter(CHANGE, 0, 2, 2));
         x.crash(1);
         due("suspect(1), DOWN", x.suspect(1), false);
         x.recover(1, 1);
         due("suspect(1), RECOVERING", x.suspect(1), false);
-        dueReplica("refused", x, 1, RECOVERING, 0, 0, 0);
+        x.dueReplica("refused", 1, RECOVERING, 0, 0, 0);
         due("refused: sent()", x.sent(), 8);
     }
 
     private static void crash() {
-        GroupLog x = new GroupLog(0);
+        Group x = new Group(0);
         int[] none = {-1, 3, MIN, MAX};
         for (int replica : none) {
             due("crash(" + replica + ")", x.crash(replica), false);
         }
         x.request(0, 1, 1, 5);
-        drain(x);
+        x.drain();
         due("crash(0)", x.crash(0), true);
-        dueFresh("crashed", x, 0, DOWN, 3);
+        x.dueFresh("crashed", 0, DOWN);
         due("crash(0) again", x.crash(0), false);
         due("crash(1) with one DOWN", x.crash(1), false);
-        dueReplica("not crashed", x, 1, NORMAL, 0, 1, 0);
+        x.dueReplica("not crashed", 1, NORMAL, 0, 1, 0);
         x.recover(0, 4);
         due("crash(1) with one RECOVERING", x.crash(1), false);
         due("crash(0) while RECOVERING", x.crash(0), true);
-        dueFresh("crashed again", x, 0, DOWN, 3);
+        x.dueFresh("crashed again", 0, DOWN);
         due("crashed: answered(1) stays", x.answered(1), 1);
         due("crashed: sent()", x.sent(), 6);
     }
 
     private static void crashOfFive() {
-        GroupLog x = new GroupLog(1);
+        Group x = new Group(1);
         due("crash(4)", x.crash(4), true);
         due("crash(2)", x.crash(2), true);
         due("crash(0), two are DOWN", x.crash(0), false);
@@ -394,7 +325,7 @@ public final class Promises {
     }
 
     private static void recover() {
-        GroupLog x = new GroupLog(0);
+        Group x = new Group(0);
         int[] none = {-1, 3, MIN, MAX};
         for (int replica : none) {
             due("recover(" + replica + ", 1)", x.recover(replica, 1), false);
@@ -410,7 +341,7 @@ public final class Promises {
         due("refused: sent()", x.sent(), 2);
         due("refused: status(1)", x.status(1), DOWN);
         due("recover(1, 3)", x.recover(1, 3), true);
-        dueReplica("recovering", x, 1, RECOVERING, 0, 0, 0);
+        x.dueReplica("recovering", 1, RECOVERING, 0, 0, 0);
         due("recovering: vector(1, 1)", x.vector(1, 1), 3);
         due("recovering: vector(1, 0)", x.vector(1, 0), 0);
         due("recovering: vector(0, 1)", x.vector(0, 1), 0);
@@ -431,7 +362,7 @@ public final class Promises {
     }
 
     private static void noncesAreEachReplicasOwn() {
-        GroupLog x = new GroupLog(1);
+        Group x = new Group(1);
         x.crash(3);
         x.crash(4);
         due("recover(3, 7)", x.recover(3, 7), true);
@@ -442,9 +373,9 @@ public final class Promises {
     }
 
     private static void looksAtNothing() {
-        GroupLog x = new GroupLog(0);
+        Group x = new Group(0);
         x.request(0, 0, 1, 5);
-        drain(x);
+        x.drain();
         int[] none = {-1, 3, MIN, MAX};
         for (int replica : none) {
             due("status(" + replica + ")", x.status(replica), -1);
@@ -471,12 +402,12 @@ public final class Promises {
             due("answered(" + client + ")", x.answered(client), -1);
             due("answer(" + client + ")", x.answer(client), 0);
         }
-        due("fifth replica of five: vector(4, 4)", new GroupLog(1).vector(4, 4), 0);
+        due("fifth replica of five: vector(4, 4)", new Group(1).vector(4, 4), 0);
         due("fifth replica of three: vector(4, 4)", x.vector(4, 4), -1);
     }
 
     private static void statusesAndViews() {
-        GroupLog x = new GroupLog(1);
+        Group x = new Group(1);
         x.suspect(3);
         x.suspect(3);
         x.crash(1);
@@ -491,7 +422,7 @@ public final class Promises {
     }
 
     private static void entriesAndTotals() {
-        GroupLog x = new GroupLog(0);
+        Group x = new Group(0);
         x.request(0, 3, MAX, MAX);
         x.request(0, 1, 1 << 30, MIN);
         x.request(0, 0, 1, -1);
@@ -510,7 +441,7 @@ public final class Promises {
         due("answer(3)", x.answer(3), first);
         due("answered(3)", x.answered(3), MAX);
         due("answered(1)", x.answered(1), 0);
-        drain(x);
+        x.drain();
         int second = 3 * first + MIN + 1;
         int third = 3 * second - 1;
         due("commit(0)", x.commit(0), 3);
@@ -522,7 +453,7 @@ public final class Promises {
     }
 
     private static void prepare() {
-        GroupLog x = new GroupLog(0);
+        Group x = new Group(0);
         x.request(0, 0, 1, 5);
         x.request(0, 0, 2, 6);
         x.request(0, 0, 3, 7);
@@ -541,39 +472,39 @@ public final class Promises {
         x.remind(0);
         due("prepare: remind of three", x.message(10), letter(PREPARE, 0, 1, 0));
         x.deliver(10);
-        dueReplica("prepare: the latest entry comes with it", x, 1, NORMAL, 0, 3, 2);
+        x.dueReplica("prepare: the latest entry comes with it", 1, NORMAL, 0, 3, 2);
         due("prepare: total(1)", x.total(1), 21);
         x.deliver(1);
-        dueReplica("prepare: commit said when it was sent", x, 2, NORMAL, 0, 1, 0);
+        x.dueReplica("prepare: commit said when it was sent", 2, NORMAL, 0, 1, 0);
         x.deliver(3);
         x.deliver(5);
         x.deliver(11);
-        dueReplica("prepare: the same length", x, 2, NORMAL, 0, 3, 2);
+        x.dueReplica("prepare: the same length", 2, NORMAL, 0, 3, 2);
         x.deliver(5);
         due("prepare: commit doesn't sink", x.commit(2), 2);
     }
 
     private static void prepareOfOtherViews() {
-        GroupLog x = new GroupLog(0);
+        Group x = new Group(0);
         x.request(0, 0, 1, 5);
         x.suspect(1);
         due("older view", x.deliver(0), 2);
         due("older view: sent()", x.sent(), 4);
         due("older view: length(1)", x.length(1), 0);
         x.deliver(3);
-        deliverLatest(x, CHANGE, 2, 1);
-        deliverLatest(x, PAPER, 2, 1);
+        x.deliverLatest(CHANGE, 2, 1);
+        x.deliverLatest(PAPER, 2, 1);
         x.request(1, 0, 1, 8);
-        due("r is CHANGING to that view", deliverLatest(x, PREPARE, 1, 2), 2);
-        due("CHANGING fetches", x.message(x.sent() - 1), letter(FETCH, 2, 1, 1));
-        dueReplica("CHANGING", x, 2, CHANGING, 1, 0, 0);
-        due("greater view", deliverLatest(x, PREPARE, 1, 0), 2);
-        due("greater view fetches", x.message(x.sent() - 1), letter(FETCH, 0, 1, 0));
-        dueReplica("greater view", x, 0, NORMAL, 0, 1, 0);
+        due("r is CHANGING to that view", x.deliverLatest(PREPARE, 1, 2), 2);
+        due("CHANGING fetches", x.lastMessage(), letter(FETCH, 2, 1, 1));
+        x.dueReplica("CHANGING", 2, CHANGING, 1, 0, 0);
+        due("greater view", x.deliverLatest(PREPARE, 1, 0), 2);
+        due("greater view fetches", x.lastMessage(), letter(FETCH, 0, 1, 0));
+        x.dueReplica("greater view", 0, NORMAL, 0, 1, 0);
     }
 
     private static void commitIsNotBeyondTheLog() {
-        GroupLog x = new GroupLog(0);
+        Group x = new Group(0);
         x.request(0, 0, 1, 5);
         x.request(0, 0, 2, 6);
         x.deliver(0);
@@ -586,11 +517,11 @@ public final class Promises {
         x.deliver(1);
         x.deliver(3);
         x.deliver(7);
-        dueReplica("in step", x, 2, NORMAL, 0, 3, 2);
+        x.dueReplica("in step", 2, NORMAL, 0, 3, 2);
     }
 
     private static void okOfFive() {
-        GroupLog x = new GroupLog(1);
+        Group x = new Group(1);
         x.request(0, 0, 1, 1);
         x.request(0, 1, 1, 2);
         x.deliver(0);
@@ -614,31 +545,31 @@ public final class Promises {
     }
 
     private static void okOfNoUse() {
-        GroupLog x = new GroupLog(0);
+        Group x = new Group(0);
         x.request(0, 0, 1, 1);
         x.deliver(0);
         x.suspect(0);
         due("the primary is CHANGING", x.deliver(2), 2);
         due("CHANGING: commit(0)", x.commit(0), 0);
-        GroupLog y = new GroupLog(0);
+        Group y = new Group(0);
         y.request(0, 0, 1, 1);
         y.deliver(0);
-        int old = latest(y, OK, 1, 0);
+        int old = y.latest(OK, 1, 0);
         for (int i = 0; i < 3; i++) {
             y.suspect(2);
         }
-        deliverLatest(y, CHANGE, 2, 1);
-        deliverLatest(y, PAPER, 1, 0);
-        dueReplica("primary of view 3", y, 0, NORMAL, 3, 1, 0);
+        y.deliverLatest(CHANGE, 2, 1);
+        y.deliverLatest(PAPER, 1, 0);
+        y.dueReplica("primary of view 3", 0, NORMAL, 3, 1, 0);
         due("an OK of view 0", y.deliver(old), 2);
         due("view 3: commit(0)", y.commit(0), 0);
-        due("an OK of view 3", deliverLatest(y, STATE, 0, 1), 2);
-        deliverLatest(y, OK, 1, 0);
+        due("an OK of view 3", y.deliverLatest(STATE, 0, 1), 2);
+        y.deliverLatest(OK, 1, 0);
         due("view 3: commit(0) then", y.commit(0), 1);
     }
 
     private static void nobodyHasAckedInANewView() {
-        GroupLog x = new GroupLog(1);
+        Group x = new Group(1);
         x.request(0, 0, 1, 1);
         x.deliver(0);
         x.deliver(4);
@@ -651,23 +582,23 @@ public final class Promises {
         x.suspect(2);
         x.suspect(2);
         x.suspect(2);
-        deliverLatest(x, CHANGE, 1, 3);
-        deliverLatest(x, CHANGE, 2, 3);
-        deliverLatest(x, PAPER, 3, 0);
-        deliverLatest(x, CHANGE, 1, 2);
-        deliverLatest(x, CHANGE, 3, 2);
-        deliverLatest(x, PAPER, 2, 0);
-        dueReplica("primary again", x, 0, NORMAL, 5, 1, 0);
-        deliverLatest(x, STATE, 0, 4);
-        deliverLatest(x, OK, 4, 0);
+        x.deliverLatest(CHANGE, 1, 3);
+        x.deliverLatest(CHANGE, 2, 3);
+        x.deliverLatest(PAPER, 3, 0);
+        x.deliverLatest(CHANGE, 1, 2);
+        x.deliverLatest(CHANGE, 3, 2);
+        x.deliverLatest(PAPER, 2, 0);
+        x.dueReplica("primary again", 0, NORMAL, 5, 1, 0);
+        x.deliverLatest(STATE, 0, 4);
+        x.deliverLatest(OK, 4, 0);
         due("one of two acks in view 5", x.commit(0), 0);
-        deliverLatest(x, STATE, 0, 3);
-        deliverLatest(x, OK, 3, 0);
+        x.deliverLatest(STATE, 0, 3);
+        x.deliverLatest(OK, 3, 0);
         due("two acks in view 5", x.commit(0), 1);
     }
 
     private static void fetchAndState() {
-        GroupLog x = new GroupLog(0);
+        Group x = new Group(0);
         x.request(0, 1, 1, 5);
         x.request(0, 1, 2, 6);
         x.deliver(3);
@@ -675,7 +606,7 @@ public final class Promises {
         due("it sends STATE", x.message(5), letter(STATE, 0, 2, 0));
         x.request(0, 1, 3, 7);
         due("STATE with a longer log", x.deliver(5), 2);
-        dueReplica("STATE is of when it was sent", x, 2, NORMAL, 0, 2, 0);
+        x.dueReplica("STATE is of when it was sent", 2, NORMAL, 0, 2, 0);
         due("STATE is OK", x.message(8), letter(OK, 2, 0, 0));
         due("the same STATE again", x.deliver(5), 2);
         due("no longer log: sent()", x.sent(), 9);
@@ -689,78 +620,78 @@ public final class Promises {
     }
 
     private static void stateOfAGreaterView() {
-        GroupLog x = new GroupLog(1);
+        Group x = new Group(1);
         x.request(0, 0, 1, 5);
         x.suspect(2);
-        deliverLatest(x, CHANGE, 2, 3);
+        x.deliverLatest(CHANGE, 2, 3);
         x.suspect(4);
-        deliverLatest(x, CHANGE, 4, 3);
-        due("two votes make a paper", x.message(x.sent() - 1), letter(PAPER, 3, 1, 1));
-        deliverLatest(x, CHANGE, 3, 2);
-        deliverLatest(x, CHANGE, 4, 2);
-        deliverLatest(x, PAPER, 3, 1);
+        x.deliverLatest(CHANGE, 4, 3);
+        due("two votes make a paper", x.lastMessage(), letter(PAPER, 3, 1, 1));
+        x.deliverLatest(CHANGE, 3, 2);
+        x.deliverLatest(CHANGE, 4, 2);
+        x.deliverLatest(PAPER, 3, 1);
         due("one paper is not enough", x.status(1), CHANGING);
-        deliverLatest(x, PAPER, 3, 1);
+        x.deliverLatest(PAPER, 3, 1);
         due("nor is it twice", x.status(1), CHANGING);
-        deliverLatest(x, PAPER, 2, 1);
+        x.deliverLatest(PAPER, 2, 1);
         due("two papers are", x.status(1), NORMAL);
         due("STATE to 0", x.message(x.sent() - 4), letter(STATE, 1, 0, 1));
-        due("STATE to 4", x.message(x.sent() - 1), letter(STATE, 1, 4, 1));
-        due("STATE of a greater view", deliverLatest(x, STATE, 1, 0), 2);
-        dueReplica("the entry of view 0 is lost", x, 0, NORMAL, 1, 0, 0);
-        due("OK to the new primary", x.message(x.sent() - 1), letter(OK, 0, 1, 1));
-        due("STATE while CHANGING", deliverLatest(x, STATE, 1, 4), 2);
-        dueReplica("no longer CHANGING", x, 4, NORMAL, 1, 0, 0);
+        due("STATE to 4", x.lastMessage(), letter(STATE, 1, 4, 1));
+        due("STATE of a greater view", x.deliverLatest(STATE, 1, 0), 2);
+        x.dueReplica("the entry of view 0 is lost", 0, NORMAL, 1, 0, 0);
+        due("OK to the new primary", x.lastMessage(), letter(OK, 0, 1, 1));
+        due("STATE while CHANGING", x.deliverLatest(STATE, 1, 4), 2);
+        x.dueReplica("no longer CHANGING", 4, NORMAL, 1, 0, 0);
         x.suspect(4);
         int before = x.sent();
-        due("STATE of an older view", deliverLatest(x, STATE, 1, 4), 2);
-        dueReplica("older view", x, 4, CHANGING, 2, 0, 0);
+        due("STATE of an older view", x.deliverLatest(STATE, 1, 4), 2);
+        x.dueReplica("older view", 4, CHANGING, 2, 0, 0);
         due("older view: sent()", x.sent(), before);
     }
 
     /** A late FETCH brings a STATE of view 3 to the primary of view 3, which does nothing with it. */
     private static void stateToThePrimary() {
-        GroupLog x = new GroupLog(0);
+        Group x = new Group(0);
         x.request(0, 0, 1, 5);
         x.suspect(1);
-        deliverLatest(x, CHANGE, 1, 2);
-        deliverLatest(x, CHANGE, 2, 1);
-        deliverLatest(x, PAPER, 2, 1);
+        x.deliverLatest(CHANGE, 1, 2);
+        x.deliverLatest(CHANGE, 2, 1);
+        x.deliverLatest(PAPER, 2, 1);
         x.remind(1);
-        deliverLatest(x, PREPARE, 1, 2);
-        due("CHANGING fetches", x.message(x.sent() - 1), letter(FETCH, 2, 1, 1));
-        deliverLatest(x, FETCH, 2, 1);
-        deliverLatest(x, STATE, 1, 2);
+        x.deliverLatest(PREPARE, 1, 2);
+        due("CHANGING fetches", x.lastMessage(), letter(FETCH, 2, 1, 1));
+        x.deliverLatest(FETCH, 2, 1);
+        x.deliverLatest(STATE, 1, 2);
         due("2 is NORMAL in view 1", x.status(2), NORMAL);
         x.suspect(2);
-        deliverLatest(x, CHANGE, 2, 1);
-        deliverLatest(x, PAPER, 1, 2);
-        dueReplica("2 leads view 2", x, 2, NORMAL, 2, 0, 0);
+        x.deliverLatest(CHANGE, 2, 1);
+        x.deliverLatest(PAPER, 1, 2);
+        x.dueReplica("2 leads view 2", 2, NORMAL, 2, 0, 0);
         x.remind(2);
-        deliverLatest(x, PREPARE, 2, 0);
-        int fetch = latest(x, FETCH, 0, 2);
+        x.deliverLatest(PREPARE, 2, 0);
+        int fetch = x.latest(FETCH, 0, 2);
         due("0 fetches from 2", x.message(fetch), letter(FETCH, 0, 2, 0));
         x.suspect(2);
-        deliverLatest(x, CHANGE, 2, 1);
-        deliverLatest(x, CHANGE, 1, 2);
-        int paper = latest(x, PAPER, 1, 0);
+        x.deliverLatest(CHANGE, 2, 1);
+        x.deliverLatest(CHANGE, 1, 2);
+        int paper = x.latest(PAPER, 1, 0);
         due("1's paper for view 3", x.message(paper), letter(PAPER, 1, 0, 3));
         x.deliver(paper);
-        deliverLatest(x, STATE, 0, 2);
-        dueReplica("0 leads view 3", x, 0, NORMAL, 3, 0, 0);
+        x.deliverLatest(STATE, 0, 2);
+        x.dueReplica("0 leads view 3", 0, NORMAL, 3, 0, 0);
         x.deliver(fetch);
-        due("2 says view 3 to its primary", x.message(x.sent() - 1), letter(STATE, 2, 0, 3));
+        due("2 says view 3 to its primary", x.lastMessage(), letter(STATE, 2, 0, 3));
         int before = x.sent();
         due("STATE to the primary", x.deliver(before - 1), 2);
-        dueReplica("0 still leads view 3", x, 0, NORMAL, 3, 0, 0);
+        x.dueReplica("0 still leads view 3", 0, NORMAL, 3, 0, 0);
         due("STATE to the primary: sent()", x.sent(), before);
     }
 
     private static void change() {
-        GroupLog x = new GroupLog(0);
+        Group x = new Group(0);
         x.suspect(0);
         due("CHANGE to a backup", x.deliver(1), 2);
-        dueReplica("it changes too", x, 2, CHANGING, 1, 0, 0);
+        x.dueReplica("it changes too", 2, CHANGING, 1, 0, 0);
         due("CHANGE to 0", x.message(2), letter(CHANGE, 2, 0, 1));
         due("CHANGE to 1", x.message(3), letter(CHANGE, 2, 1, 1));
         due("then its paper", x.message(4), letter(PAPER, 2, 1, 1));
@@ -771,7 +702,7 @@ public final class Promises {
         due("and sends no paper", x.sent(), 7);
         x.suspect(2);
         due("CHANGE of an older view", x.deliver(1), 2);
-        dueReplica("older view", x, 2, CHANGING, 2, 0, 0);
+        x.dueReplica("older view", 2, CHANGING, 2, 0, 0);
         due("older view: sent()", x.sent(), 9);
         due("CHANGE to view 2", x.deliver(7), 2);
         due("0's paper goes to 2", x.message(11), letter(PAPER, 0, 2, 2));
@@ -784,265 +715,265 @@ public final class Promises {
     }
 
     private static void votesOfOneViewOnly() {
-        GroupLog x = new GroupLog(1);
+        Group x = new Group(1);
         x.suspect(2);
-        deliverLatest(x, CHANGE, 2, 3);
-        deliverLatest(x, CHANGE, 2, 3);
-        due("one vote twice", latest(x, PAPER, 3, 1), -1);
+        x.deliverLatest(CHANGE, 2, 3);
+        x.deliverLatest(CHANGE, 2, 3);
+        due("one vote twice", x.latest(PAPER, 3, 1), -1);
         x.suspect(2);
-        deliverLatest(x, CHANGE, 2, 3);
-        due("a vote of another view doesn't count", latest(x, PAPER, 3, 2), -1);
+        x.deliverLatest(CHANGE, 2, 3);
+        due("a vote of another view doesn't count", x.latest(PAPER, 3, 2), -1);
         x.suspect(4);
         x.suspect(4);
-        deliverLatest(x, CHANGE, 4, 3);
-        due("two votes", x.message(x.sent() - 1), letter(PAPER, 3, 2, 2));
+        x.deliverLatest(CHANGE, 4, 3);
+        due("two votes", x.lastMessage(), letter(PAPER, 3, 2, 2));
     }
 
     private static void changeOfTheSameViewWhenNormal() {
-        GroupLog x = new GroupLog(0);
+        Group x = new Group(0);
         x.suspect(0);
         x.deliver(0);
         x.deliver(1);
-        deliverLatest(x, PAPER, 2, 1);
-        dueReplica("leads", x, 1, NORMAL, 1, 0, 0);
+        x.deliverLatest(PAPER, 2, 1);
+        x.dueReplica("leads", 1, NORMAL, 1, 0, 0);
         int before = x.sent();
         due("CHANGE of its own view to a NORMAL one", x.deliver(0), 2);
-        due("PAPER of its own view to a NORMAL one", deliverLatest(x, PAPER, 2, 1), 2);
-        dueReplica("still leads", x, 1, NORMAL, 1, 0, 0);
+        due("PAPER of its own view to a NORMAL one", x.deliverLatest(PAPER, 2, 1), 2);
+        x.dueReplica("still leads", 1, NORMAL, 1, 0, 0);
         due("nothing is sent", x.sent(), before);
     }
 
     private static void papersAreWeighed() {
-        GroupLog x = new GroupLog(0);
+        Group x = new Group(0);
         x.request(0, 0, 1, 5);
         x.request(0, 0, 2, 6);
         x.suspect(1);
-        deliverLatest(x, CHANGE, 1, 2);
-        deliverLatest(x, PAPER, 2, 1);
-        deliverLatest(x, STATE, 1, 2);
+        x.deliverLatest(CHANGE, 1, 2);
+        x.deliverLatest(PAPER, 2, 1);
+        x.deliverLatest(STATE, 1, 2);
         x.request(1, 3, 1, 9);
-        deliverLatest(x, PREPARE, 1, 2);
-        deliverLatest(x, OK, 2, 1);
-        dueReplica("view 1", x, 2, NORMAL, 1, 1, 0);
+        x.deliverLatest(PREPARE, 1, 2);
+        x.deliverLatest(OK, 2, 1);
+        x.dueReplica("view 1", 2, NORMAL, 1, 1, 0);
         due("view 1: commit(1)", x.commit(1), 1);
         x.suspect(2);
         x.suspect(2);
-        deliverLatest(x, CHANGE, 2, 1);
-        due("1's paper", x.message(x.sent() - 1), letter(PAPER, 1, 0, 3));
+        x.deliverLatest(CHANGE, 2, 1);
+        due("1's paper", x.lastMessage(), letter(PAPER, 1, 0, 3));
         due("0 has the longer log of an older view", x.length(0), 2);
-        deliverLatest(x, PAPER, 1, 0);
-        dueReplica("the greater last view wins, with its commit", x, 0, NORMAL, 3, 1, 1);
+        x.deliverLatest(PAPER, 1, 0);
+        x.dueReplica("the greater last view wins, with its commit", 0, NORMAL, 3, 1, 1);
         due("entry(0, 0)", x.entry(0, 0), 9);
         due("origin(0, 0)", x.origin(0, 0), 7);
         due("total(0)", x.total(0), 12);
     }
 
     private static void theLongerPaperWins() {
-        GroupLog x = new GroupLog(1);
+        Group x = new Group(1);
         x.request(0, 0, 1, 5);
         x.request(0, 0, 2, 6);
-        deliverLatest(x, PREPARE, 0, 4);
-        deliverLatest(x, FETCH, 4, 0);
-        deliverLatest(x, STATE, 0, 4);
+        x.deliverLatest(PREPARE, 0, 4);
+        x.deliverLatest(FETCH, 4, 0);
+        x.deliverLatest(STATE, 0, 4);
         x.deliver(1);
         x.suspect(3);
-        deliverLatest(x, CHANGE, 3, 2);
-        deliverLatest(x, CHANGE, 3, 4);
-        deliverLatest(x, CHANGE, 2, 4);
-        deliverLatest(x, CHANGE, 4, 2);
-        deliverLatest(x, PAPER, 2, 1);
-        deliverLatest(x, PAPER, 4, 1);
-        dueReplica("the longest wins", x, 1, NORMAL, 1, 2, 0);
+        x.deliverLatest(CHANGE, 3, 2);
+        x.deliverLatest(CHANGE, 3, 4);
+        x.deliverLatest(CHANGE, 2, 4);
+        x.deliverLatest(CHANGE, 4, 2);
+        x.deliverLatest(PAPER, 2, 1);
+        x.deliverLatest(PAPER, 4, 1);
+        x.dueReplica("the longest wins", 1, NORMAL, 1, 2, 0);
         due("entry(1, 1)", x.entry(1, 1), 6);
     }
 
     private static void theOwnLogWinsWhenLonger() {
-        GroupLog x = new GroupLog(0);
+        Group x = new Group(0);
         x.request(0, 0, 1, 5);
         x.deliver(0);
         x.deliver(2);
         x.remind(0);
-        deliverLatest(x, PREPARE, 0, 1);
-        dueReplica("before", x, 1, NORMAL, 0, 1, 1);
+        x.deliverLatest(PREPARE, 0, 1);
+        x.dueReplica("before", 1, NORMAL, 0, 1, 1);
         x.suspect(1);
-        deliverLatest(x, CHANGE, 1, 2);
-        deliverLatest(x, PAPER, 2, 1);
-        dueReplica("own log and commit", x, 1, NORMAL, 1, 1, 1);
+        x.deliverLatest(CHANGE, 1, 2);
+        x.deliverLatest(PAPER, 2, 1);
+        x.dueReplica("own log and commit", 1, NORMAL, 1, 1, 1);
     }
 
     private static void recovery() {
-        GroupLog x = new GroupLog(0);
+        Group x = new Group(0);
         x.request(0, 2, 1, 5);
-        drain(x);
+        x.drain();
         x.crash(2);
         x.recover(2, 3);
-        due("RECOVERY", deliverLatest(x, RECOVERY, 2, 0), 2);
+        due("RECOVERY", x.deliverLatest(RECOVERY, 2, 0), 2);
         due("vector(0, 2)", x.vector(0, 2), 3);
-        due("RESPONSE", x.message(x.sent() - 1), letter(RESPONSE, 0, 2, 0));
+        due("RESPONSE", x.lastMessage(), letter(RESPONSE, 0, 2, 0));
         due("RECOVERING hears no PREPARE", x.deliver(1), 0);
-        due("first RESPONSE", deliverLatest(x, RESPONSE, 0, 2), 2);
-        due("the same RESPONSE", deliverLatest(x, RESPONSE, 0, 2), 2);
+        due("first RESPONSE", x.deliverLatest(RESPONSE, 0, 2), 2);
+        due("the same RESPONSE", x.deliverLatest(RESPONSE, 0, 2), 2);
         due("one replica's responses", x.status(2), RECOVERING);
-        deliverLatest(x, RECOVERY, 2, 1);
-        due("second RESPONSE", deliverLatest(x, RESPONSE, 1, 2), 2);
-        dueReplica("recovered", x, 2, NORMAL, 0, 1, 1);
+        x.deliverLatest(RECOVERY, 2, 1);
+        due("second RESPONSE", x.deliverLatest(RESPONSE, 1, 2), 2);
+        x.dueReplica("recovered", 2, NORMAL, 0, 1, 1);
         due("total(2)", x.total(2), 7);
         due("vector(2, 2)", x.vector(2, 2), 3);
-        due("a RESPONSE to a NORMAL one", deliverLatest(x, RESPONSE, 1, 2), 0);
-        due("an OK of before the crash", deliverLatest(x, OK, 2, 0), 1);
+        due("a RESPONSE to a NORMAL one", x.deliverLatest(RESPONSE, 1, 2), 0);
+        due("an OK of before the crash", x.deliverLatest(OK, 2, 0), 1);
         x.crash(2);
-        due("a RESPONSE to a DOWN one", deliverLatest(x, RESPONSE, 1, 2), 0);
+        due("a RESPONSE to a DOWN one", x.deliverLatest(RESPONSE, 1, 2), 0);
         x.recover(2, 4);
-        due("a RESPONSE for an older nonce", deliverLatest(x, RESPONSE, 1, 2), 1);
+        due("a RESPONSE for an older nonce", x.deliverLatest(RESPONSE, 1, 2), 1);
         due("a RECOVERY of an older nonce is still taken", x.deliver(4), 2);
-        due("a RECOVERY", deliverLatest(x, RECOVERY, 2, 0), 2);
+        due("a RECOVERY", x.deliverLatest(RECOVERY, 2, 0), 2);
         due("a RECOVERY of an older nonce is too late", x.deliver(4), 1);
         due("vector(1, 2)", x.vector(1, 2), 3);
         due("vector(0, 2) is then", x.vector(0, 2), 4);
     }
 
     private static void recoveryNeedsThePrimary() {
-        GroupLog x = new GroupLog(0);
+        Group x = new Group(0);
         x.request(0, 2, 1, 5);
-        drain(x);
+        x.drain();
         x.crash(0);
         x.recover(0, 1);
-        drain(x);
+        x.drain();
         due("nobody leads view 0", x.status(0), RECOVERING);
         due("the primary's request", x.request(0, 2, 2, 5), -2);
         x.suspect(1);
-        due("a CHANGING one doesn't respond", deliverLatest(x, RECOVERY, 0, 1), 2);
-        due("CHANGING: message", x.message(x.sent() - 1), letter(CHANGE, 1, 2, 1));
-        drain(x);
-        dueReplica("view 1", x, 1, NORMAL, 1, 1, 1);
+        due("a CHANGING one doesn't respond", x.deliverLatest(RECOVERY, 0, 1), 2);
+        due("CHANGING: message", x.lastMessage(), letter(CHANGE, 1, 2, 1));
+        x.drain();
+        x.dueReplica("view 1", 1, NORMAL, 1, 1, 1);
         due("still RECOVERING", x.status(0), RECOVERING);
         x.recover(0, 2);
-        deliverLatest(x, RECOVERY, 0, 2);
-        deliverLatest(x, RESPONSE, 2, 0);
+        x.deliverLatest(RECOVERY, 0, 2);
+        x.deliverLatest(RESPONSE, 2, 0);
         due("half of the responses", x.status(0), RECOVERING);
-        deliverLatest(x, RECOVERY, 0, 1);
-        deliverLatest(x, RESPONSE, 1, 0);
-        dueReplica("recovered in view 1", x, 0, NORMAL, 1, 1, 1);
+        x.deliverLatest(RECOVERY, 0, 1);
+        x.deliverLatest(RESPONSE, 1, 0);
+        x.dueReplica("recovered in view 1", 0, NORMAL, 1, 1, 1);
     }
 
     /** In a group of five, three must respond, and the primary must have the greatest view itself. */
     private static void recoveryOfFive() {
-        GroupLog x = new GroupLog(1);
+        Group x = new Group(1);
         x.request(0, 0, 1, 5);
-        drain(x);
+        x.drain();
         x.crash(4);
         x.recover(4, 2);
-        deliverLatest(x, RECOVERY, 4, 0);
-        deliverLatest(x, RECOVERY, 4, 3);
-        deliverLatest(x, RESPONSE, 0, 4);
-        deliverLatest(x, RESPONSE, 3, 4);
+        x.deliverLatest(RECOVERY, 4, 0);
+        x.deliverLatest(RECOVERY, 4, 3);
+        x.deliverLatest(RESPONSE, 0, 4);
+        x.deliverLatest(RESPONSE, 3, 4);
         due("two responses", x.status(4), RECOVERING);
         x.suspect(1);
         x.suspect(3);
-        deliverLatest(x, CHANGE, 1, 2);
-        deliverLatest(x, CHANGE, 3, 2);
-        deliverLatest(x, CHANGE, 1, 3);
-        deliverLatest(x, CHANGE, 2, 3);
-        deliverLatest(x, PAPER, 2, 1);
-        deliverLatest(x, PAPER, 3, 1);
-        deliverLatest(x, STATE, 1, 2);
+        x.deliverLatest(CHANGE, 1, 2);
+        x.deliverLatest(CHANGE, 3, 2);
+        x.deliverLatest(CHANGE, 1, 3);
+        x.deliverLatest(CHANGE, 2, 3);
+        x.deliverLatest(PAPER, 2, 1);
+        x.deliverLatest(PAPER, 3, 1);
+        x.deliverLatest(STATE, 1, 2);
         due("2 is in view 1", x.view(2), 1);
-        deliverLatest(x, RECOVERY, 4, 2);
-        due("the third response", deliverLatest(x, RESPONSE, 2, 4), 2);
+        x.deliverLatest(RECOVERY, 4, 2);
+        due("the third response", x.deliverLatest(RESPONSE, 2, 4), 2);
         due("none of view 1's primary", x.status(4), RECOVERING);
-        deliverLatest(x, RECOVERY, 4, 1);
-        deliverLatest(x, RESPONSE, 1, 4);
-        dueReplica("with it", x, 4, NORMAL, 1, 1, x.commit(1));
+        x.deliverLatest(RECOVERY, 4, 1);
+        x.deliverLatest(RESPONSE, 1, 4);
+        x.dueReplica("with it", 4, NORMAL, 1, 1, x.commit(1));
     }
 
     /** What was kept from a replica is forgotten when its crash becomes known, by whomever. */
     private static void keptIsForgotten() {
-        GroupLog x = new GroupLog(1);
+        Group x = new Group(1);
         x.suspect(3);
-        deliverLatest(x, CHANGE, 3, 4);
+        x.deliverLatest(CHANGE, 3, 4);
         due("one vote kept", x.status(4), CHANGING);
         x.crash(3);
         x.recover(3, 6);
-        deliverLatest(x, RECOVERY, 3, 0);
+        x.deliverLatest(RECOVERY, 3, 0);
         due("vector(0, 3)", x.vector(0, 3), 6);
         x.suspect(0);
-        due("a vote that tells of 3's crash", deliverLatest(x, CHANGE, 0, 4), 2);
+        due("a vote that tells of 3's crash", x.deliverLatest(CHANGE, 0, 4), 2);
         due("vector(4, 3)", x.vector(4, 3), 6);
-        due("one vote is left, so no paper", latest(x, PAPER, 4, 1), -1);
-        due("3's vote is outdated", deliverLatest(x, CHANGE, 3, 4), 1);
+        due("one vote is left, so no paper", x.latest(PAPER, 4, 1), -1);
+        due("3's vote is outdated", x.deliverLatest(CHANGE, 3, 4), 1);
         x.suspect(2);
-        deliverLatest(x, CHANGE, 2, 4);
-        due("two votes again", x.message(x.sent() - 1), letter(PAPER, 4, 1, 1));
+        x.deliverLatest(CHANGE, 2, 4);
+        due("two votes again", x.lastMessage(), letter(PAPER, 4, 1, 1));
     }
 
     private static void papersAreForgotten() {
-        GroupLog x = new GroupLog(1);
+        Group x = new Group(1);
         x.suspect(3);
         x.suspect(4);
-        deliverLatest(x, CHANGE, 3, 2);
-        deliverLatest(x, CHANGE, 4, 2);
-        deliverLatest(x, CHANGE, 4, 3);
-        deliverLatest(x, CHANGE, 2, 3);
-        deliverLatest(x, CHANGE, 3, 4);
-        deliverLatest(x, PAPER, 3, 1);
+        x.deliverLatest(CHANGE, 3, 2);
+        x.deliverLatest(CHANGE, 4, 2);
+        x.deliverLatest(CHANGE, 4, 3);
+        x.deliverLatest(CHANGE, 2, 3);
+        x.deliverLatest(CHANGE, 3, 4);
+        x.deliverLatest(PAPER, 3, 1);
         due("one paper", x.status(1), CHANGING);
         x.crash(3);
         x.recover(3, 1);
-        deliverLatest(x, RECOVERY, 3, 4);
-        deliverLatest(x, CHANGE, 2, 4);
-        deliverLatest(x, CHANGE, 1, 4);
-        due("4's paper tells of the crash", x.message(x.sent() - 1), letter(PAPER, 4, 1, 1));
-        due("4's paper", deliverLatest(x, PAPER, 4, 1), 2);
+        x.deliverLatest(RECOVERY, 3, 4);
+        x.deliverLatest(CHANGE, 2, 4);
+        x.deliverLatest(CHANGE, 1, 4);
+        due("4's paper tells of the crash", x.lastMessage(), letter(PAPER, 4, 1, 1));
+        due("4's paper", x.deliverLatest(PAPER, 4, 1), 2);
         due("one paper is left", x.status(1), CHANGING);
         due("vector(1, 3)", x.vector(1, 3), 1);
-        deliverLatest(x, PAPER, 2, 1);
+        x.deliverLatest(PAPER, 2, 1);
         due("two papers", x.status(1), NORMAL);
     }
 
     private static void responsesAreForgotten() {
-        GroupLog x = new GroupLog(1);
+        Group x = new Group(1);
         x.crash(3);
         x.crash(4);
         x.recover(3, 1);
-        deliverLatest(x, RECOVERY, 3, 0);
-        deliverLatest(x, RECOVERY, 3, 1);
-        deliverLatest(x, RECOVERY, 3, 2);
-        deliverLatest(x, RESPONSE, 1, 3);
-        deliverLatest(x, RESPONSE, 2, 3);
+        x.deliverLatest(RECOVERY, 3, 0);
+        x.deliverLatest(RECOVERY, 3, 1);
+        x.deliverLatest(RECOVERY, 3, 2);
+        x.deliverLatest(RESPONSE, 1, 3);
+        x.deliverLatest(RESPONSE, 2, 3);
         x.recover(4, 1);
-        deliverLatest(x, RECOVERY, 4, 0);
-        deliverLatest(x, RECOVERY, 4, 1);
-        deliverLatest(x, RECOVERY, 4, 2);
-        deliverLatest(x, RESPONSE, 0, 4);
-        deliverLatest(x, RESPONSE, 1, 4);
-        deliverLatest(x, RESPONSE, 2, 4);
+        x.deliverLatest(RECOVERY, 4, 0);
+        x.deliverLatest(RECOVERY, 4, 1);
+        x.deliverLatest(RECOVERY, 4, 2);
+        x.deliverLatest(RESPONSE, 0, 4);
+        x.deliverLatest(RESPONSE, 1, 4);
+        x.deliverLatest(RESPONSE, 2, 4);
         due("4 is back", x.status(4), NORMAL);
         due("it knows of 3's crash", x.vector(4, 3), 1);
         x.crash(1);
         x.recover(1, 5);
         due("1 crashed", x.status(1), RECOVERING);
-        deliverLatest(x, RECOVERY, 1, 0);
-        deliverLatest(x, RECOVERY, 3, 0);
-        due("a response that tells of 1's crash", deliverLatest(x, RESPONSE, 0, 3), 2);
+        x.deliverLatest(RECOVERY, 1, 0);
+        x.deliverLatest(RECOVERY, 3, 0);
+        due("a response that tells of 1's crash", x.deliverLatest(RESPONSE, 0, 3), 2);
         due("two responses are left", x.status(3), RECOVERING);
         due("vector(3, 1)", x.vector(3, 1), 5);
-        deliverLatest(x, RECOVERY, 3, 4);
-        deliverLatest(x, RESPONSE, 4, 3);
+        x.deliverLatest(RECOVERY, 3, 4);
+        x.deliverLatest(RESPONSE, 4, 3);
         due("three responses", x.status(3), NORMAL);
     }
 
     /** The calls of README.md. */
     private static void readme() {
-        GroupLog group = new GroupLog(0);
+        Group group = new Group(0);
         due("readme: request", group.request(0, 1, 1, 10), 0);
-        drain(group);
+        group.drain();
         due("readme: commit", group.commit(0), 1);
         due("readme: answer", group.answer(1), 11);
         due("readme: crash", group.crash(0), true);
         due("readme: suspect", group.suspect(1), true);
-        drain(group);
+        group.drain();
         due("readme: recover", group.recover(0, 1), true);
-        drain(group);
+        group.drain();
         due("readme: length", group.length(0), 1);
     }
 
@@ -1102,9 +1033,6 @@ public final class Promises {
         otherCalls();
         kindsOfMessages();
         readme();
-        System.out.println(wrong == 0 ? "all answers are as due" : wrong + " answers are not as due");
-        if (wrong != 0) {
-            System.exit(1);
-        }
+        end();
     }
 }
