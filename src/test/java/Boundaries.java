@@ -527,6 +527,25 @@ public final class Boundaries extends Due {
         t.due("crash(0) then", 1, x -> x.crash(0) ? 1 : 0);
     }
 
+    /** "F others": whichever they are. */
+    private static void crashWithAnyOtherLost() {
+        for (int lost = 0; lost < 3; lost++) {
+            for (int tried = 0; tried < 3; tried++) {
+                Group x = new Group(0);
+                x.crash(lost);
+                due(lost + " is DOWN: crash(" + tried + ")", x.crash(tried), false);
+            }
+        }
+        for (int lost = 0; lost < 25; lost++) {
+            for (int tried = 0; tried < 5; tried++) {
+                Group x = new Group(1);
+                boolean two = x.crash(lost / 5) & x.crash(lost % 5);
+                String at = lost / 5 + " and " + lost % 5 + " are DOWN: crash(" + tried + ")";
+                due(at, x.crash(tried), !two && tried != lost % 5);
+            }
+        }
+    }
+
     /** "F others are DOWN or RECOVERING": those that are CHANGING do not count. */
     private static void crashWhenOthersAreChanging() {
         Group x = new Group(0);
@@ -567,10 +586,12 @@ public final class Boundaries extends Due {
         x.recoverWith(4, 3, 0, 1, 2);
         x.leadOfFive(2, 3, 4);
         x.request(2, 0, 1, 5);
-        x.deliverLatest(STATE, 2, 3);
-        x.deliverLatest(PREPARE, 2, 3);
-        x.deliverLatest(OK, 3, 2);
-        x.dueReplica("before", 2, NORMAL, 2, 1, 0);
+        for (int other = 3; other < 5; other++) {
+            x.deliverLatest(STATE, 2, other);
+            x.deliverLatest(PREPARE, 2, other);
+            x.deliverLatest(OK, other, 2);
+        }
+        x.dueReplica("before", 2, NORMAL, 2, 1, 1);
         due("before: vector(2, 4)", x.vector(2, 4), 3);
         int sent = x.sent();
         due("crash(2)", x.crash(2), true);
@@ -751,7 +772,7 @@ public final class Boundaries extends Due {
     private static void looksChangeNothing() {
         Twins t = new Twins(0);
         t.both(x -> x.request(0, 1, 2, 5));
-        t.idle("everything but its text", 0, x -> x.everything().isEmpty() ? 1 : 0);
+        t.idle("all looks", 0, x -> x.everything().isEmpty() ? 1 : 0);
         t.idle("message(-1)", -1, x -> x.message(-1));
         t.idle("entry(0, 1)", 0, x -> x.entry(0, 1));
         t.idle("vector(3, 3)", -1, x -> x.vector(3, 3));
@@ -1073,6 +1094,7 @@ public final class Boundaries extends Due {
         crashOfOneThatIsDown();
         crashOfThree();
         crashOfFive();
+        crashWithAnyOtherLost();
         crashWhenOthersAreChanging();
         refusedCrashForgetsNothing();
         crashForgetsEverything();

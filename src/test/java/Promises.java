@@ -1,4 +1,4 @@
-/** For each promise: ordinary calls, the edges that the document names, and wrong inputs. */
+/** For each promise, and each kind of message: ordinary calls, one after the other, and wrong ones. */
 public final class Promises extends Due {
     private static void newObject() {
         int[] sizes = {0, 2, 4, -2, 1000, MIN, 1, 3, 5, -1, -3, MAX};
@@ -370,40 +370,6 @@ public final class Promises extends Due {
         due("vector(4, 4)", x.vector(4, 4), 5);
         due("vector(4, 3)", x.vector(4, 3), 0);
         due("vector(3, 3)", x.vector(3, 3), 7);
-    }
-
-    private static void looksAtNothing() {
-        Group x = new Group(0);
-        x.request(0, 0, 1, 5);
-        x.drain();
-        int[] none = {-1, 3, MIN, MAX};
-        for (int replica : none) {
-            due("status(" + replica + ")", x.status(replica), -1);
-            due("view(" + replica + ")", x.view(replica), -1);
-            due("length(" + replica + ")", x.length(replica), -1);
-            due("commit(" + replica + ")", x.commit(replica), -1);
-            due("entry(" + replica + ", 0)", x.entry(replica, 0), 0);
-            due("origin(" + replica + ", 0)", x.origin(replica, 0), -1);
-            due("total(" + replica + ")", x.total(replica), 0);
-            due("vector(" + replica + ", 0)", x.vector(replica, 0), -1);
-            due("vector(0, " + replica + ")", x.vector(0, replica), -1);
-        }
-        int[] noEntries = {-1, 1, 24, MIN, MAX};
-        for (int k : noEntries) {
-            due("entry(0, " + k + ")", x.entry(0, k), 0);
-            due("origin(0, " + k + ")", x.origin(0, k), -1);
-        }
-        int[] noMessages = {-1, 4, 64, MIN, MAX};
-        for (int k : noMessages) {
-            due("message(" + k + ")", x.message(k), -1);
-        }
-        int[] noClients = {-1, 4, MIN, MAX};
-        for (int client : noClients) {
-            due("answered(" + client + ")", x.answered(client), -1);
-            due("answer(" + client + ")", x.answer(client), 0);
-        }
-        due("fifth replica of five: vector(4, 4)", new Group(1).vector(4, 4), 0);
-        due("fifth replica of three: vector(4, 4)", x.vector(4, 4), -1);
     }
 
     private static void statusesAndViews() {
@@ -997,7 +963,6 @@ public final class Promises extends Due {
         crashOfFive();
         recover();
         noncesAreEachReplicasOwn();
-        looksAtNothing();
         statusesAndViews();
         entriesAndTotals();
     }
