@@ -812,6 +812,7 @@ public final class Boundaries extends Due {
         due("origin(0, 1)", x.origin(0, 1), 31);
     }
 
+    /** "at most 24": the last entry of a full log, and the one after it. */
     private static void entriesOfAFullLog() {
         Group x = new Group(0);
         fill(x, 24);
@@ -892,6 +893,7 @@ public final class Boundaries extends Due {
         }
     }
 
+    /** "wrapping as ints do": through a whole log of 24 entries. */
     private static void totalOfAFullLog() {
         Group x = new Group(0);
         int total = 0;

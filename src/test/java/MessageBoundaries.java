@@ -481,6 +481,7 @@ public final class MessageBoundaries extends Due {
         due("both votes stay", x.lastMessage(), letter(PAPER, 4, 1, 1));
     }
 
+    /** A paper "whose vector had for t less" is forgotten. */
     private static void paperOfOneThatCrashed() {
         int[] crashes = {0, 3, 4};
         for (int crashed : crashes) {
@@ -515,6 +516,7 @@ public final class MessageBoundaries extends Due {
         due("two papers", x.status(1), NORMAL);
     }
 
+    /** A paper whose number is the same stays. */
     private static void paperOfOneThatCrashedBefore() {
         Group x = new Group(1);
         x.crash(3);
@@ -526,6 +528,7 @@ public final class MessageBoundaries extends Due {
         due("both papers stay", x.status(1), NORMAL);
     }
 
+    /** A response "whose vector had for t less" is forgotten. */
     private static void responseOfOneThatCrashed() {
         Group x = new Group(1);
         x.crash(4);
@@ -541,6 +544,7 @@ public final class MessageBoundaries extends Due {
         due("three responses", x.status(4), NORMAL);
     }
 
+    /** The same for the response that would have been enough, of the primary. */
     private static void responseOfAPrimaryThatCrashed() {
         Group x = new Group(1);
         x.crash(4);
@@ -553,6 +557,7 @@ public final class MessageBoundaries extends Due {
         due("the primary's response is forgotten", x.status(4), RECOVERING);
     }
 
+    /** A response whose number is the same stays. */
     private static void responseOfOneThatCrashedBefore() {
         Group x = new Group(1);
         x.crash(1);
