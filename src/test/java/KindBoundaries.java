@@ -1002,6 +1002,15 @@ public final class KindBoundaries extends Due {
 
     // Answers
 
+    /** Client 2 gets number 4 answered by the primary of view 1; replica 0 stays behind in view 0. */
+    private static void answerInViewOne(Group x) {
+        x.leadOfThree(1, 2);
+        x.request(1, 2, 4, 1);
+        x.deliverLatest(STATE, 1, 2);
+        x.deliverLatest(PREPARE, 1, 2);
+        x.deliverLatest(OK, 2, 1);
+    }
+
     /** "if the number is not less than the one that it was answered with last". */
     private static void answeredWithEachNumber() {
         Twins t = new Twins(0);
@@ -1011,17 +1020,28 @@ public final class KindBoundaries extends Due {
         t.due("greater: answered(2)", 3, x -> x.answered(2));
         t.idle("the same: request again", 1, x -> x.request(0, 2, 3, 10));
         t.same("answered with the same number");
-        t.both(x -> x.leadOfThree(1, 2));
-        t.both(x -> x.request(1, 2, 4, 1));
-        t.both(x -> x.deliverLatest(STATE, 1, 2));
-        t.both(x -> x.deliverLatest(PREPARE, 1, 2));
-        t.both(x -> x.deliverLatest(OK, 2, 1));
+        t.both(KindBoundaries::answerInViewOne);
         t.due("greater again: answered(2)", 4, x -> x.answered(2));
         t.due("greater again: answer(2)", 3 * 12 + 1 + 2, x -> x.answer(2));
         t.idle("less: request again at the old primary", 1, x -> x.request(0, 2, 3, 10));
         t.due("less: answered(2)", 4, x -> x.answered(2));
         t.due("less: answer(2)", 39, x -> x.answer(2));
         t.same("answered with a lesser number");
+    }
+
+    /** "the one that it was answered with last" is its latest number: a lesser one never counts. */
+    private static void answeredTwiceWithALesserNumber() {
+        Group x = new Group(0);
+        x.request(0, 2, 3, 10);
+        x.deliver(0);
+        x.deliver(2);
+        answerInViewOne(x);
+        due("the new primary: answered(2)", x.answered(2), 4);
+        for (int time = 1; time <= 3; time++) {
+            due("the old primary, time " + time, x.request(0, 2, 3, 10), 1);
+            due("the old primary, time " + time + ": answered(2)", x.answered(2), 4);
+            due("the old primary, time " + time + ": answer(2)", x.answer(2), 39);
+        }
     }
 
     private static void preparesAndOks() {
@@ -1104,6 +1124,7 @@ public final class KindBoundaries extends Due {
         papers();
         recoveriesAndResponses();
         answeredWithEachNumber();
+        answeredTwiceWithALesserNumber();
         end();
     }
 }
